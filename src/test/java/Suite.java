@@ -1,0 +1,17 @@
+/** Runs every test of the project. */
+public final class Suite {
+    private Suite() {
+    }
+
+    public static void main(String[] args) throws Exception {
+        FittingTests.all();
+        TellingTests.all();
+        HoursTests.all();
+        PlansTests.all();
+        BooksTests.all();
+        System.out.println(Due.passed + " passed, " + Due.failed + " failed");
+        if (Due.failed != 0) {
+            System.exit(1);
+        }
+    }
+}
