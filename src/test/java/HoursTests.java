@@ -425,6 +425,24 @@ final class HoursTests {
         for (int i = 0; i < whole.length; i++) {
             Due.is(whole[i], y.tackleTold(i, 3), "P15 the lowest MAST first, then 25 of 22: TACKLE " + i);
         }
+        ropeOfTackle0AheadOfMasts();
+    }
+
+    private static void ropeOfTackle0AheadOfMasts() {
+        BeachedShip x = new BeachedShip();
+        int[] masts = {0, 1, 1, 2, 2};
+        int[] strengths = {19, 400, 22, 400, 400};
+        for (int i = 0; i < masts.length; i++) {
+            x.tackle(masts[i], 1, strengths[i]);
+        }
+        x.heel(1);
+        x.rule(1, 1000);
+        x.rule(6, 39);
+        x.hour(0);
+        int[] whole = {0, 1, 0, 1, 1};
+        for (int i = 0; i < whole.length; i++) {
+            Due.is(whole[i], x.tackleTold(i, 3), "P15 20 of 19, then 25 of 22, then MAST 1 bears 34: TACKLE " + i);
+        }
     }
 
     private static void promise15WorkAheadOfParting() {

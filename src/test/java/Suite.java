@@ -9,6 +9,9 @@ public final class Suite {
         HoursTests.all();
         PlansTests.all();
         BooksTests.all();
+        FaceTests.all();
+        PlanRuns.all();
+        ModelRuns.all();
         System.out.println(Due.passed + " passed, " + Due.failed + " failed");
         if (Due.failed != 0) {
             System.exit(1);
