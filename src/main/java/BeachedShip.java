@@ -362,7 +362,7 @@ public final class BeachedShip {
     }
 
     private static boolean hasBit(int bits, int i) {
-        return (bits >> i & 1) != 0;
+        return ((bits >> i) & 1) != 0;
     }
 
     private static int roundedUp(int v, int by) {
@@ -834,7 +834,7 @@ public final class BeachedShip {
 
         // At most 30 hands and 126 short in an HOUR: no sum runs over into the next eight bits.
         private boolean areMenEnough(long handsByHours) {
-            return (handsByHours + menShort & TOO_MANY) == 0;
+            return ((handsByHours + menShort) & TOO_MANY) == 0;
         }
 
         int seamBits() {
@@ -900,7 +900,7 @@ public final class BeachedShip {
                     takeIfSooner(set, firstHour(ship.shore, total + ship.things.weightOf(set), done));
                 }
                 // The next set above, by bits, of those that are OUT.
-                set = set - out & out;
+                set = (set - out) & out;
             }
         }
 
