@@ -9,6 +9,10 @@ public final class Suite {
         HoursTests.all();
         PlansTests.all();
         BooksTests.all();
+        RefusalTests.all();
+        EdgesOfHer.all();
+        EdgesOfSeams.all();
+        EdgesOfPlans.all();
         FaceTests.all();
         PlanRuns.all();
         ModelRuns.all();
