@@ -812,7 +812,7 @@ public final class BeachedShip {
             }
         }
 
-        /** Finds beginnings for the SEAMS of the set from number at on; used is what those ahead take. At most 6 deep. */
+        /** Finds beginnings for the SEAMS of the set from number at on; used is what those ahead take. 6 deep at most. */
         private static boolean isPlaced(Planner p, int set, int at, long used) {
             if (at >= p.size || at >= MOST_PLANNED) {
                 return true;

@@ -1,4 +1,4 @@
-/** The edges that the third and fourth part of the Terms name: a test of its own for each sentence. */
+/** The edges that the third part of the Terms names: a test of its own for each sentence. */
 final class EdgesOfPlans {
     private static final int NONE = -4;
     private static final int[] FLOAT_NONE = {NONE, NONE, NONE};
@@ -9,8 +9,6 @@ final class EdgesOfPlans {
     static void all() {
         allPlans();
         allFloats();
-        allPlanks();
-        allBooks();
     }
 
     private static BeachedShip lowTide() {
@@ -378,6 +376,9 @@ final class EdgesOfPlans {
         byTotalWithThisSet();
         theHourIsLeast();
         ofSeveralTheLeastBits();
+        asItGoesATrialByForce();
+        asItGoesATrialByMasts();
+        asItGoesATrialBySides();
         noneIfTheTrialLosesHer();
         noneIfASeamStaysOpen();
         noneIfHour95IsNotEnough();
@@ -566,6 +567,61 @@ final class EdgesOfPlans {
         floatIs(x, s + "2 ahead of 4", 4, 2, 3);
     }
 
+    /** HEEL 2, HOUR 2; a SEAM is OPEN, which lacks an HOUR. TOTAL 450, FORCE 90 on each of two MASTS half. */
+    private static BeachedShip heeledAndOpen() {
+        BeachedShip x = new BeachedShip();
+        Ships.tideAll(x, 60);
+        x.tides(0, 3, 0L);
+        x.thing(50, -1);
+        x.tackle(1, 1, 45);
+        x.tackle(2, 1, 400);
+        x.seam(9, 0, 1, 1, 0, 1);
+        x.heel(1);
+        x.hour(1);
+        x.heel(1);
+        x.rain(1, true);
+        x.rule(1, 100);
+        x.hour(0);
+        x.rule(1, 400);
+        return x;
+    }
+
+    private static void asItGoesATrialByForce() {
+        String s = "as it goes: a trial, by TOTAL as it is: ";
+        BeachedShip x = heeledAndOpen();
+        floatIs(x, s + "45 of 45 HOLDS: HEEL goes from 2", 5, 0, 3);
+        x.rule(1, 410);
+        x.rule(7, 91);
+        floatIs(x, s + "46 of 45 parts, then 92 on MAST 2 of 91: HEEL is 0", 3, 0, 3);
+        x.move(0);
+        floatIs(x, s + "41 of 45 with the THING OUT", 5, 0, 3);
+        Due.is(2, x.count(3), s + "nothing parts but in the trial");
+    }
+
+    private static void asItGoesATrialByMasts() {
+        String s = "as it goes: a trial, by MASTS: ";
+        BeachedShip x = heeledAndOpen();
+        x.rule(5, 0);
+        x.rule(6, 45);
+        x.rule(7, 89);
+        floatIs(x, s + "45 of 45 HOLDS", 5, 0, 3);
+        x.rule(6, 44);
+        floatIs(x, s + "45 of 44 parts, then 90 on MAST 2 of 89", 3, 0, 3);
+        x.rule(7, 90);
+        floatIs(x, s + "45 of 44 parts, then 90 on MAST 2 of 90", 5, 0, 3);
+    }
+
+    private static void asItGoesATrialBySides() {
+        String s = "as it goes: a trial, by SIDES: ";
+        BeachedShip x = Ships.strong();
+        Ships.tideAll(x, 60);
+        x.tides(0, 4, 0x15101500L);
+        x.seam(6, 1, 1, 1, 0, 1);
+        x.heel(1);
+        x.hour(1);
+        floatIs(x, s + "21 of 24 less 3, then 16", 4, 0, 3);
+    }
+
     /** HOUR 1; a SEAM is OPEN and floods till WATER is 100 in HOUR 11, in which it is BARE. */
     private static BeachedShip almostLost() {
         BeachedShip x = new BeachedShip();
@@ -651,219 +707,5 @@ final class EdgesOfPlans {
         z.tide(94, 60);
         z.tide(95, 0);
         floatIs(z, s + "a SEAM in HOUR 95", FLOAT_NONE);
-    }
-
-    private static void allPlanks() {
-        planks0To29();
-        aGapAtFirst();
-        wormInDullOnes();
-        wormAmong1To30();
-        runsSideBySide();
-    }
-
-    private static void planks0To29() {
-        String s = "PLANKS 0 to 29 are TAPPED: ";
-        BeachedShip x = new BeachedShip();
-        Due.is(-100, x.tap(-1, 0), s + "not -1");
-        Due.is(-100, x.tap(30, 0), s + "not 30");
-        Due.is(-100, x.tap(0, -2), s + "not by -2");
-        Due.is(-100, x.tap(0, 2), s + "not by 2");
-        int[] taps = {0, 1, -1, 1, 0, -1};
-        int[] ends = {0, 29};
-        for (int p : ends) {
-            int was = -1;
-            for (int v : taps) {
-                Due.is(was, x.tap(p, v), s + p + " by " + v);
-                was = v;
-            }
-        }
-    }
-
-    private static void aGapAtFirst() {
-        BeachedShip x = new BeachedShip();
-        Due.is(0, x.worm(30, 0), "a GAP (at first): none need have WORM");
-        Due.is(30, x.worm(30, 1), "a GAP (at first): all may have WORM");
-        for (int p = 0; p < 30; p++) {
-            Due.is(-1, x.tap(p, 0), "a GAP (at first): " + p);
-        }
-    }
-
-    private static void wormIs(BeachedShip x, int n, String s, int... due) {
-        for (int what = 0; what < 4; what++) {
-            Due.is(due[what], x.worm(n, what), s + ": what " + what + " of " + n);
-        }
-    }
-
-    private static void wormInDullOnes() {
-        String s = "WORM is in dull ones, not in sound ones; in GAPS as may be: ";
-        BeachedShip x = new BeachedShip();
-        x.tap(0, 0);
-        wormIs(x, 1, s + "a sound one", 0, 0, 0, 0);
-        x.tap(0, 1);
-        wormIs(x, 1, s + "a dull one", 1, 1, 1, 1);
-        x.tap(0, -1);
-        wormIs(x, 1, s + "a GAP", 0, 1, 0, 1);
-    }
-
-    private static void wormAmong1To30() {
-        String s = "WORM among PLANKS 0 to n - 1 (1 to 30): ";
-        BeachedShip x = new BeachedShip();
-        Due.is(-1, x.worm(0, 0), s + "not 0");
-        Due.is(-1, x.worm(31, 0), s + "not 31");
-        for (int p = 0; p < 30; p++) {
-            x.tap(p, 0);
-        }
-        x.tap(1, 1);
-        x.tap(29, 1);
-        wormIs(x, 1, s + "not PLANK 1", 0, 0, 0, 0);
-        wormIs(x, 2, s + "PLANK 1", 1, 1, 1, 1);
-        wormIs(x, 29, s + "not PLANK 29", 1, 1, 1, 1);
-        wormIs(x, 30, s + "PLANK 29", 2, 2, 2, 2);
-    }
-
-    private static void tapAll(BeachedShip x, int... taps) {
-        for (int p = 0; p < taps.length; p++) {
-            x.tap(p, taps[p]);
-        }
-    }
-
-    private static void runsSideBySide() {
-        String s = "least and most RUNS (side by side): ";
-        BeachedShip x = new BeachedShip();
-        tapAll(x, 1, 1, 1);
-        wormIs(x, 3, s + "three dull ones are one", 3, 3, 1, 1);
-        tapAll(x, 1, 0, 1);
-        wormIs(x, 3, s + "a sound one parts them", 2, 2, 2, 2);
-        tapAll(x, 1, -1, 1);
-        wormIs(x, 3, s + "a GAP may part them", 2, 3, 1, 2);
-        tapAll(x, -1, 1, -1);
-        wormIs(x, 3, s + "GAPS beside a dull one are no other RUNS", 1, 3, 1, 1);
-        tapAll(x, -1, -1, 1);
-        wormIs(x, 3, s + "one GAP farther off may be", 1, 3, 1, 2);
-        tapAll(x, 0, -1, 0, 1);
-        wormIs(x, 4, s + "a GAP by itself", 1, 2, 1, 2);
-        tapAll(x, 1, -1, -1, 1, 0, 1, -1, 0, -1, 1);
-        wormIs(x, 10, s + "GAPS join the first two alone", 4, 8, 3, 4);
-    }
-
-    private static void allBooks() {
-        hoursOfMen();
-        tacklesThatParted();
-        thingsMoved();
-        worthOfTightOnes();
-        kept3AtMost();
-        backOfNone();
-        whatCameSinceIsGone();
-    }
-
-    private static void hoursOfMen() {
-        String s = "HOURS of MEN that worked (HANDS, each HOUR): ";
-        BeachedShip x = lowTide();
-        x.rule(3, 12);
-        x.seam(5, 0, 6, 1, 10, 1);
-        x.seam(5, 0, 6, 1, 10, 1);
-        int[] orders = {0, 1, 3, 3, 3};
-        int[] hours = {0, 6, 18, 24, 24};
-        for (int i = 0; i < orders.length; i++) {
-            x.hour(orders[i]);
-            Due.is(hours[i], x.book(1), s + "behind HOUR " + i);
-        }
-    }
-
-    private static void tacklesThatParted() {
-        String s = "TACKLES that PARTED: ";
-        BeachedShip x = new BeachedShip();
-        x.tackle(0, 1, 40);
-        x.rig(0, false);
-        Due.is(0, x.book(2), s + "not one that was taken off");
-        for (int i = 1; i <= 2; i++) {
-            x.rule(1, 400);
-            x.rig(0, true);
-            x.heel(1);
-            x.rule(1, 410);
-            x.hour(0);
-            Due.is(i, x.book(2), s + "the same one again");
-        }
-    }
-
-    private static void thingsMoved() {
-        String s = "THINGS moved: ";
-        BeachedShip x = new BeachedShip();
-        x.thing(1, -1);
-        for (int i = 1; i <= 3; i++) {
-            x.move(0);
-            x.move(0);
-            Due.is(i, x.book(3), s + "OUT and IN, not one that did not");
-            x.hour(0);
-        }
-    }
-
-    private static void worthOfTightOnes() {
-        String s = "WORTH of TIGHT ones: ";
-        BeachedShip x = lowTide();
-        x.rule(3, 20);
-        for (int i = 0; i < 12; i++) {
-            x.seam(5, 0, 1, 1, 0, 100);
-        }
-        Due.is(0, x.book(4), s + "all OLD");
-        x.hour(4095);
-        Due.is(0, x.book(4), s + "all OPEN");
-        x.hour(1 << 11);
-        Due.is(100, x.book(4), s + "the last");
-        x.hour(4095);
-        Due.is(1200, x.book(4), s + "all");
-    }
-
-    private static void kept3AtMost() {
-        String s = "KEPT: 3 at most: ";
-        BeachedShip x = new BeachedShip();
-        for (int i = 1; i <= 3; i++) {
-            Due.is(i, x.keep(), s + i);
-            x.hour(0);
-        }
-        Due.is(-3, x.keep(), s + "FULL");
-        Due.is(3, x.count(8), s + "3 stay");
-        for (int left = 2; left >= 0; left--) {
-            Due.is(left, x.back(), s + "left");
-            Due.is(left, x.count(7), s + "the HOUR of that one, and not of the one that was refused");
-        }
-        Due.is(1, x.keep(), s + "room again");
-    }
-
-    private static void backOfNone() {
-        String s = "As KEPT last; NO, of none: ";
-        BeachedShip x = new BeachedShip();
-        x.hour(0);
-        Due.is(-2, x.back(), s + "none was KEPT");
-        Due.is(1, x.count(7), s + "the HOUR stays");
-        x.keep();
-        x.hour(0);
-        Due.is(0, x.back(), s + "one was");
-        Due.is(-2, x.back(), s + "none is left");
-        Due.is(1, x.count(7), s + "the HOUR stays as KEPT");
-    }
-
-    private static void whatCameSinceIsGone() {
-        String s = "THINGS, TACKLES, SEAMS that came since are gone: ";
-        BeachedShip x = new BeachedShip();
-        x.keep();
-        for (int i = 0; i < 12; i++) {
-            x.thing(1, -1);
-            x.seam(5, 0, 1, 1, 0, 1);
-            x.tackle(0, 1, 1);
-        }
-        x.back();
-        int[] counts = {0, 2, 4};
-        for (int c : counts) {
-            Due.is(0, x.count(c), s + "count of " + c);
-        }
-        Due.is(400, x.ship(0), s + "TOTAL");
-        Due.is(-1, x.move(0), s + "there is no THING");
-        Due.is(-1, x.rig(0, true), s + "there is no TACKLE");
-        Due.is(-1, x.hour(1), s + "there is no SEAM");
-        Due.is(-1, x.thing(1, 0), s + "there is none to lie on");
-        Due.is(0, x.thing(1, -1), s + "numbers begin at 0 again");
-        Due.is(0, x.tackle(0, 1, 1), s + "numbers begin at 0 again");
-        Due.is(0, x.seam(5, 0, 1, 1, 0, 1), s + "numbers begin at 0 again");
     }
 }

@@ -13,6 +13,7 @@ public final class Suite {
         EdgesOfHer.all();
         EdgesOfSeams.all();
         EdgesOfPlans.all();
+        EdgesOfBooks.all();
         FaceTests.all();
         PlanRuns.all();
         ModelRuns.all();
