@@ -38,7 +38,9 @@ final class EdgesOfPlans {
     private static void allPlans() {
         forNHours1To6();
         heelAsItIs();
+        fromNowWhenAskedAgain();
         someMayBeNone();
+        allTwelveTight();
         theFirst5Count();
         oneHourIfItIsOld();
         whatLacksOfLong();
@@ -87,6 +89,42 @@ final class EdgesOfPlans {
         planIs(x, 6, 3, 0, 1, s + "from HOUR 1: HOURS 1 to 6");
         x.heel(-1);
         planIs(x, 6, 0, 0, 0, s + "HEEL 0 again");
+    }
+
+    private static void fromNowWhenAskedAgain() {
+        String s = "from now: ";
+        BeachedShip x = lowTide();
+        x.rule(3, 4);
+        x.seam(5, 0, 4, 1, 0, 1);
+        x.seam(5, 0, 4, 1, 0, 1);
+        x.seam(5, 0, 1, 1, 0, 1);
+        planIs(x, 3, 1, 0, 1, s + "two of 4 HANDS need four HOURS");
+        x.hour(1);
+        planIs(x, 3, 2, 0, 3, s + "three, when the first is raked");
+        ordersAre(x, s + "three", 1, 2, 2);
+        x.hour(1);
+        planIs(x, 2, 1, 0, 2, s + "the second and third, in the places of the first and second");
+        planIs(x, 4, 2, 0, 6, s + "the second and third, in four HOURS");
+        ordersAre(x, s + "the second and third", 2, 2, 4, 4);
+    }
+
+    private static void allTwelveTight() {
+        String s = "of SEAMS that are OLD or OPEN some, of twelve: ";
+        BeachedShip x = lowTide();
+        x.rule(3, 12);
+        for (int i = 0; i < 12; i++) {
+            x.seam(5, 0, 1, 1, 0, 1);
+        }
+        x.hour(2047);
+        x.hour(2047);
+        planIs(x, 6, 1, 0, 2048, s + "the last alone");
+        Due.is(0, x.plan(6, 14), s + "the last begins now");
+        x.hour(2048);
+        x.hour(2048);
+        Due.is(12, x.count(6), s + "all are TIGHT");
+        planIs(x, 6, 0, 0, 0, s + "all are TIGHT");
+        Due.is(NONE, x.plan(6, 14), s + "all are TIGHT: the last");
+        floatIs(x, s + "all are TIGHT: no TIDE", FLOAT_NONE);
     }
 
     private static void someMayBeNone() {
@@ -662,6 +700,16 @@ final class EdgesOfPlans {
         floatIs(x, s + "PITCH 49 of 50", FLOAT_NONE);
         x.rule(4, 50);
         floatIs(x, s + "both are there", 95, 0, 2);
+        BeachedShip y = lowTide();
+        y.seam(5, 0, 1, 1, 1, 1);
+        y.hour(1);
+        y.rule(4, 0);
+        y.rule(1, 100);
+        y.rule(0, 0);
+        y.tide(50, 15);
+        floatIs(y, s + "it is BARE and OPEN to the end, and behind it", FLOAT_NONE);
+        y.rule(4, 1);
+        floatIs(y, s + "its PITCH is there", 50, 0, 2);
     }
 
     private static void noneIfHour95IsNotEnough() {
