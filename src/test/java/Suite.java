@@ -15,6 +15,8 @@ public final class Suite {
         EdgesOfPlans.all();
         EdgesOfBooks.all();
         FaceTests.all();
+        LanguageTests.all();
+        ReadmeTests.all();
         PlanRuns.all();
         ModelRuns.all();
         System.out.println(Due.passed + " passed, " + Due.failed + " failed");
